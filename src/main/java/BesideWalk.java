@@ -768,18 +768,6 @@ public final class BesideWalk {
             findAlike();
         }
 
-        private void findAlike() {
-            for (int i = 0; i < nodes; i++) {
-                like[i] = (1 << nodes) - 1;
-            }
-            for (int round = 0; round < nodes; round++) {
-                findImages();
-                if (!splits()) {
-                    break;
-                }
-            }
-        }
-
         /** Whether a state of the first process is alike to one of the second. */
         boolean across(int s, int t) {
             return has(like[s], second + t);
@@ -830,6 +818,19 @@ public final class BesideWalk {
                     lead[nodes * KINDS + by] = proc.targets(s, by) << first;
                 }
                 nodes++;
+            }
+        }
+
+        /** All are taken for alike, then those go apart that have a move which the other one can not match. */
+        private void findAlike() {
+            for (int i = 0; i < nodes; i++) {
+                like[i] = (1 << nodes) - 1;
+            }
+            for (int round = 0; round < nodes; round++) {
+                findImages();
+                if (!splits()) {
+                    break;
+                }
             }
         }
 
