@@ -474,6 +474,11 @@ public final class PromiseTest {
         C.due("15: none offers", x.behind(1, 2), -1);
         x.clear();
         C.due("15: stable and offers none", x.behind(1, 2), 0);
+        Checks.build(x, 2, 4, "0a1;1i0;0i2;2i3;");
+        x.type('a');
+        C.due("15: on silently over 0 and 2", x.behind(2, 0), 15);
+        x.clear();
+        C.due("15: on silently from 0", x.behind(2, 0), 13);
         C.due("15: BAD", x.behind(4, 0), -2);
         C.due("15: BAD", x.behind(0, 4), -2);
         x.type('x');
