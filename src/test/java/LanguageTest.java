@@ -7,7 +7,9 @@ import java.nio.file.Files;
 import java.nio.file.Path;
 import java.util.Arrays;
 import java.util.List;
+import java.util.Map;
 import java.util.Set;
+import java.util.TreeMap;
 import java.util.TreeSet;
 import java.util.regex.Matcher;
 import java.util.regex.Pattern;
@@ -117,21 +119,45 @@ public final class LanguageTest {
         while (library.find()) {
             C.holds("4: library: " + library.group(), may.contains(library.group()));
         }
-        lengths(code);
+        methods(code);
     }
 
     /** A method begins at an indented line that ends with ") {" and is no statement; its brace closes it. */
-    private static void lengths(String code) {
+    private static void methods(String code) {
+        Map<String, Set<String>> calls = new TreeMap<>();
         String[] lines = code.split("\n");
         for (int i = 0; i < lines.length; i++) {
-            if (lines[i].matches(" {4,8}[\\w\\[\\] ]+\\([^()]*\\) \\{") && !lines[i].matches("\\s*(if|for|while|switch) .*")) {
+            Matcher head = Pattern.compile(" {4,8}[\\w\\[\\] ]*?(\\w+)\\([^()]*\\) \\{").matcher(lines[i]);
+            if (head.matches() && !lines[i].matches("\\s*(if|for|while|switch) .*")) {
                 String end = lines[i].replaceAll("\\S.*", "") + "}";
+                Set<String> called = calls.computeIfAbsent(head.group(1), name -> new TreeSet<>());
                 int last = i;
                 while (last < lines.length - 1 && !lines[last].equals(end)) {
                     last++;
+                    Matcher call = Pattern.compile("\\b(\\w+)\\(").matcher(lines[last]);
+                    while (call.find()) {
+                        called.add(call.group(1));
+                    }
                 }
                 C.holds("11: length of " + lines[i].trim(), last - i < 60);
             }
         }
+        C.holds("methods are seen", calls.size() > 80);
+        for (String name : calls.keySet()) {
+            C.holds("8, 11: calls from " + name + " go at most eight deep", depth(calls, name, 0) <= 8);
+        }
+    }
+
+    /** Methods of one name count as one, so this is never less than what is so. */
+    private static int depth(Map<String, Set<String>> calls, String name, int above) {
+        int deepest = 0;
+        if (above < 20 && calls.containsKey(name)) {
+            for (String called : calls.get(name)) {
+                if (calls.containsKey(called)) {
+                    deepest = Math.max(deepest, depth(calls, called, above + 1));
+                }
+            }
+        }
+        return deepest + 1;
     }
 }
